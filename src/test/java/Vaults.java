@@ -3,7 +3,7 @@ final class Vaults {
     private Vaults() {
     }
 
-    /** Byte i of every object that fill() stores is first + i. */
+    /** Byte i of the draft becomes first + i, its lowest eight bits. */
     static void fillDraft(StripeVault vault, int length, int first) {
         for (int i = 0; i < length; i++) {
             Due.same("put of byte " + i, vault.put(1, first + i), true);
