@@ -1,4 +1,5 @@
 import java.util.NoSuchElementException;
+import java.util.function.IntSupplier;
 
 /** Compares answers with those that are due, prints the wrong ones, and ends a test. */
 final class Due {
@@ -49,6 +50,15 @@ final class Due {
         }
         wrong++;
         System.out.println(call + " throws nothing, due is " + due.getName());
+    }
+
+    /** What a call answers, or what it throws, as a text. */
+    static String answer(IntSupplier call) {
+        try {
+            return String.valueOf(call.getAsInt());
+        } catch (RuntimeException e) {
+            return "throws." + e.getClass().getSimpleName();
+        }
     }
 
     static void end() {

@@ -38,25 +38,14 @@ public final class StoreTest {
         Vaults.slotIs(one, 0, 1, 2, 3, 128);
         Vaults.slotIs(one, 16, 1, 2, 3, 128);
         Vaults.slotIs(one, 32, 142, 1, 143, 64);
-        Vaults.slotIs(one, 48, 244, 245, 1, times(244, 128));
+        Vaults.slotIs(one, 48, 244, 245, 1, Bytes.times(244, 128));
 
         StripeVault two = new StripeVault(2, 1);
         two.put(8, 0x0100020301030080L);
         two.store(0);
         Vaults.slotIs(two, 0, 1, 0, 2, 3);
         Vaults.slotIs(two, 16, 1, 3, 0, 128);
-        Vaults.slotIs(two, 32, 142 ^ 244, 1, 1, 143 ^ times(244, 128));
-    }
-
-    private static int times(int a, int b) {
-        int product = 0;
-        for (int i = 0; i < 8; i++) {
-            product ^= (b >> i & 1) * (a << i);
-        }
-        for (int i = 14; i >= 8; i--) {
-            product ^= (product >> i & 1) * (285 << (i - 8));
-        }
-        return product;
+        Vaults.slotIs(two, 32, 142 ^ 244, 1, 1, 143 ^ Bytes.times(244, 128));
     }
 
     private static void padsWithZeros() {
@@ -66,7 +55,7 @@ public final class StoreTest {
         Vaults.placesAre(vault, 0, 1, 48, 64, 80);
         Vaults.slotIs(vault, 48, 9, 0, 0, 0);
         Vaults.slotIs(vault, 64, 0, 0, 0, 0);
-        Vaults.slotIs(vault, 80, times(142, 9), 0, 0, 0);
+        Vaults.slotIs(vault, 80, Bytes.times(142, 9), 0, 0, 0);
     }
 
     private static void placesOnTheRoomiestDisk() {

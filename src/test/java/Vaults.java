@@ -3,10 +3,15 @@ final class Vaults {
     private Vaults() {
     }
 
-    /** Byte i of the draft becomes first + i, its lowest eight bits. */
+    /** Byte i behind the draft becomes first + i, its lowest eight bits; in few calls, as a vault has but 512. */
     static void fillDraft(StripeVault vault, int length, int first) {
-        for (int i = 0; i < length; i++) {
-            Due.same("put of byte " + i, vault.put(1, first + i), true);
+        for (int from = 0; from < length; from += 8) {
+            int n = Math.min(8, length - from);
+            long codes = 0;
+            for (int i = from; i < from + n; i++) {
+                codes = codes << 8 | (first + i) & 255;
+            }
+            Due.same("put of bytes " + from + " ..", vault.put(n, codes), true);
         }
     }
 

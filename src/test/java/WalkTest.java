@@ -137,14 +137,6 @@ public final class WalkTest {
     }
 
     private void same(String call, IntSupplier got, IntSupplier due) {
-        Due.same(name + ": " + call, answer(got), answer(due));
-    }
-
-    private static String answer(IntSupplier call) {
-        try {
-            return String.valueOf(call.getAsInt());
-        } catch (RuntimeException e) {
-            return "throws." + e.getClass().getSimpleName();
-        }
+        Due.same(name + ": " + call, Due.answer(got), Due.answer(due));
     }
 }
