@@ -165,6 +165,14 @@ public final class RefusalTest {
         answers("room(0)", 8, v -> v.room(0));
         answers("product(2, -1)", 142, v -> v.product(2, -1));
         answers("harm(7, 0, 2, 256)", 62 ^ 5, v -> v.harm(7, 0, 2, 256));
+        Unmoved.answers(RefusalTest::tornAndRead, "torn: get(4) again", 8, v -> v.get(4));
+    }
+
+    /** get() changes the output alone, and a second one not even that. */
+    private static StripeVault tornAndRead() {
+        StripeVault vault = Scenes.torn();
+        vault.get(4);
+        return vault;
     }
 
     private void refusesWithoutRoom() {
